@@ -157,6 +157,27 @@ public final class PromiseTest {
         due("5 signs without it", s.look(0, 5), 1 | 4 | 8);
         due("5 sees again", s.look(0, 1), 0);
         yes("5 sy is of no matter without one", s.stand(0, 0, 7, 0, 10));
+        s.meeting(0, -210, 100, 5, -20, 10, 0);
+        s.stand(1, -210, -1, 0, 50);
+        due("5 a car at sx is seen", s.look(1, 1), 0);
+        s.stand(1, -20, -20, 0, 50);
+        due("5 a walker at sy is seen", s.look(1, 1), 0);
+        // 53 * 20 + 15 * 210 is 4210, 52 * 20 + 15 * 210 is 4190: more and less than 210 * 20.
+        s.stand(1, -53, -15, 0, 50);
+        due("5 the line goes by the corner", s.look(1, 1), 0);
+        s.stand(1, -52, -15, 0, 50);
+        due("5 the line goes through it", s.look(1, 1), 1);
+        s.meeting(0, -200, 100, 5, -20, 10, 0);
+        s.stand(2, -100, -10, 0, 50);
+        due("5 the line goes through the corner itself", s.look(2, 1), 1);
+        // Hidden in SECOND 0, and in SECOND 1 he is at y 0, which the driver need not see.
+        s.meeting(0, -500, 100, 5, -10, 10, 0);
+        s.stand(3, -1, -1, 0, 50);
+        due("5 at y 0 nobody is seen", s.look(3, 1), NONE);
+        // The same with the car at x 0.
+        s.meeting(0, -10, 10, 5, -500, 10, 0);
+        s.stand(4, -1, -1, 0, 50);
+        due("5 from x 0 nobody sees", s.look(4, 1), NONE);
     }
 
     private static void look() {
@@ -186,6 +207,8 @@ public final class PromiseTest {
         // Wet: 65, 30, 0 in SECONDS 0, 1, 2: -135, -105.
         s.stand(1, 0, 0, 1, 50);
         due("6 stands later on a wet floor", s.look(1, 6), 2);
+        due("6 x on a wet floor", Checks.at(s, 1, 0, 1), -135);
+        due("6 x on a wet floor then", Checks.at(s, 1, 0, 2), -105);
         // Ice: 90, 80, 70, 60: -110, -30, 40: in SECOND 3 y is 20.
         s.stand(1, 0, 0, 2, 50);
         due("6 does not meet on ice", s.look(1, 0), NONE);
@@ -225,16 +248,32 @@ public final class PromiseTest {
         // The car needs 3 SECONDS cut upwards, he 2: he goes.
         s.meeting(0, -101, 50, 5, -20, 10, 1);
         due("6 he does not wait", Checks.at(s, 8, 1, 1), -10);
+        // The slowest car and the slowest walker: 5 SECONDS each, so he waits.
+        s.meeting(0, -5, 1, 5, -5, 1, 1);
+        due("6 he waits for the slowest", Checks.at(s, 9, 1, 1), -5);
+        // 3 comes to x 2 in SECOND 4, with y 6; 2 comes to x 0 in SECOND 5, with y 10.
+        s.meeting(0, -10, 50, 5, -10, 4, 0);
+        due("6 met in 1", s.look(10, 0), 1);
+        due("6 with 2 it comes when he is past", s.look(10, 2), 2);
+        // A car that stands ahead of him is waited for no more.
+        s.meeting(0, -100, 60, 0, -20, 10, 1);
+        due("6 it stands at once", s.look(11, 6), 0);
+        due("6 he waits while it goes", Checks.at(s, 11, 1, 1), -20);
+        due("6 he goes when it stands", Checks.at(s, 11, 1, 2), -10);
+        // 2 comes to x 0 in SECOND 5, ahead of braking; 1 comes to x -5 and stands.
+        WhoseStreet slow = new WhoseStreet();
+        slow.meeting(0, -10, 40, 5, -3, 1, 0);
+        due("6 only the slowest is safe", slow.look(0, 2), 1);
         // In SECOND 60 he sees for the first time: y -999 + 60 * 10 is -399, and that is behind -400 no more.
         s.meeting(0, -9999, 1, 0, -999, 10, 0);
-        s.stand(9, -1, -400, 0, 50);
-        due("6 FIRST in SECOND 60", s.look(9, 1), 60);
-        due("6 seen then", s.look(9, 3), 0);
-        s.stand(9, -1, -399, 0, 50);
-        due("6 still hidden in SECOND 60 by the line alone", s.look(9, 1), 60);
-        s.stand(9, -1, -398, 0, 50);
-        due("6 never", s.look(9, 1), NONE);
-        due("6 seen if he never sees", s.look(9, 3), 0);
+        s.stand(12, -1, -400, 0, 50);
+        due("6 FIRST in SECOND 60", s.look(12, 1), 60);
+        due("6 seen then", s.look(12, 3), 0);
+        s.stand(12, -1, -399, 0, 50);
+        due("6 still hidden in SECOND 60 by the line alone", s.look(12, 1), 60);
+        s.stand(12, -1, -398, 0, 50);
+        due("6 never", s.look(12, 1), NONE);
+        due("6 seen if he never sees", s.look(12, 3), 0);
     }
 
     private static void at() {
@@ -288,6 +327,10 @@ public final class PromiseTest {
         right("fault both when 12and 3;");
         right("fault both when speed+pace*seen-met<looks and kind=floor or width and hidden or limit=year;");
         right("let abcdefgh = 1 ; let abcdefg = abcdefgh ;");
+        right("let ab=1;let ba=1;let az=1;let bz=1;let b=1;let aa=1;let z=1;let y=1;");
+        right("fault both when 1 and 2 and 3 and 4 or 5 or 6 or 7;");
+        fault("1", 1, 0);
+        fault("0 let", 1, 0);
         right("fault both when not not not 1 ; fault both when ( ( ( 1 ) ) ) ;");
         right("fault both when not(not 0) < not(1=1)*(2<3);");
         right("fault both when 1 < 2 and 2 < 3 or 1 = 1 ;");
@@ -418,6 +461,16 @@ public final class PromiseTest {
         WhoseStreet s = new WhoseStreet();
         s.meeting(0, -200, 100, 5, -40, 20, 3);
         s.stand(0, -9998, -998, 2, 42);
+        worth(s, e, want);
+    }
+
+    private static void worthWhenMet(String e, int want) {
+        WhoseStreet s = new WhoseStreet();
+        s.meeting(0, -200, 100, 5, -40, 20, 4);
+        worth(s, e, want);
+    }
+
+    private static void worth(WhoseStreet s, String e, int want) {
         String text = "let x = 7 ; let z = limit ; limit 333 when 1 ; fault walker when (" + e + ") = " + want + " ;";
         due("3 [" + text + "]", Checks.law(s, text, 0), 0);
         due("3 " + e + " is " + want, s.whose(0, 6, 0), 2);
@@ -455,6 +508,19 @@ public final class PromiseTest {
         worth("256 * 256 * 256 * 128 - 1 < 0", 0);
         worth("2 * (3 + 4) * 5", 70);
         worth("10 - (4 - 3)", 9);
+        worth("0 or 0", 0);
+        worth("1 or 0", 1);
+        worth("3 and 0", 0);
+        worth("0 and 3", 0);
+        worth("4 = 3", 0);
+        worth("not 2", 0);
+        worthWhenMet("met", 1);
+        worthWhenMet("seen", 2);
+        worthWhenMet("looks", 0);
+        worthWhenMet("hidden", 0);
+        worthWhenMet("kind", 2);
+        worthWhenMet("floor", 0);
+        worthWhenMet("width", 50);
     }
 
     private static void changes() {
@@ -544,6 +610,22 @@ public final class PromiseTest {
         due("15 the least year", s.since(12), 1);
         due("15 its opposite", s.since(4), NONE);
         due("15 another word", s.since(3), NONE);
+        WhoseStreet fast = new WhoseStreet();
+        fast.meeting(0, -200, 101, 5, -40, 20, 0);
+        fast.meeting(0, -200, 100, 5, -40, 20, 0);
+        fast.ruling(0, true);
+        fast.ruling(1, false);
+        due("15 word 0", fast.since(0), 0);
+        fast.stand(1, 0, 0, 1, 50);
+        due("15 the SIGNS are those of today", fast.since(0), NONE);
+        WhoseStreet wide = new WhoseStreet();
+        wide.meeting(0, -200, 100, 5, -40, 20, 0);
+        wide.meeting(0, -200, 100, 5, -40, 20, 0);
+        wide.stand(1, 0, 0, 0, 9);
+        wide.ruling(0, true);
+        wide.ruling(1, false);
+        due("15 word 15", wide.since(15), 0);
+        due("15 not its opposite", wide.since(7), NONE);
         due("15 16", s.since(16), NONE);
         due("15 below 0", s.since(-1), NONE);
         s.view(2);
@@ -553,6 +635,9 @@ public final class PromiseTest {
     private static void stream() {
         WhoseStreet s = new WhoseStreet();
         yes("16 cars", s.stream(0, 0, 0, 1, 0));
+        yes("16 the narrowest and slowest", s.stream(0, 1, 1, 1, 0));
+        due("16 ten tenths of a metre", s.lights(0, 4), 10);
+        yes("16 cars again", s.stream(0, 0, 0, 1, 0));
         yes("16 walkers", s.stream(3, 99, 60, 60, 999));
         no("16 stream 4", s.stream(4, 0, 0, 1, 0));
         no("16 stream below 0", s.stream(-1, 0, 0, 1, 0));
@@ -578,6 +663,8 @@ public final class PromiseTest {
         WhoseStreet s = new WhoseStreet();
         no("17 the same", s.together(1, 1, true));
         no("17 none such", s.together(0, 4, true));
+        no("17 none such first", s.together(4, 0, true));
+        no("17 below 0 behind", s.together(0, -1, true));
         no("17 below 0", s.together(-1, 0, true));
         s.stream(0, 0, 0, 10, 1);
         s.stream(2, 0, 0, 20, 1);
@@ -619,8 +706,12 @@ public final class PromiseTest {
         full.stream(1, 0, 0, 60, 1);
         due("18 a ROUND of 120", full.lights(0, 4), 120);
         due("18 a ROUND of 122", full.lights(1, 4), NONE);
+        full.stream(2, 0, 0, 1, 1);
+        due("18 a ROUND of 121", full.lights(0, 4), NONE);
+        full.stream(1, 0, 0, 59, 1);
+        due("18 a ROUND of 120 in three", full.lights(0, 4), 120);
         full.together(0, 1, true);
-        due("18 a ROUND of 61", full.lights(1, 4), 61);
+        due("18 a ROUND of 63", full.lights(1, 4), 63);
     }
 
     private static void lightsOfEqualWaiting() {
@@ -747,6 +838,19 @@ public final class PromiseTest {
         due("24 street below 0", s.fell(-1, 0, 1), NONE);
         due("24 year 31", s.fell(2, 0, 31), NONE);
         due("24 year below 0", s.fell(2, -1, 0), NONE);
+        for (int street = 0; street < 8; street++) {
+            for (int year = 0; year <= 30; year++) {
+                s.counted(street, year, 100 - year, 100 - street);
+            }
+        }
+        for (int street = 0; street < 8; street++) {
+            due("24 all are there", s.fell(street, 0, 30), 2);
+            due("24 the last ones", s.fell(street, 29, 30), 2);
+            due("24 below 0, with all there", s.fell(street, -1, 0), NONE);
+            due("24 31, with all there", s.fell(street, 30, 31), NONE);
+        }
+        due("24 street 8, with all there", s.fell(8, 0, 1), NONE);
+        due("24 street -1, with all there", s.fell(-1, 0, 1), NONE);
         s.counted(3, 0, 9999, 99999);
         s.counted(3, 1, 9998, 99999);
         due("24 great numbers", s.fell(3, 0, 1), 2);
@@ -760,6 +864,11 @@ public final class PromiseTest {
         no("25 street below 0", s.street(-1, 0, 1, 0, 0, 0));
         no("25 the same place", s.street(1, 3, 3, 0, 0, 0));
         no("25 place 8", s.street(1, 0, 8, 0, 0, 0));
+        no("25 place 8 first", s.street(1, 8, 0, 0, 0, 0));
+        no("25 place below 0 behind", s.street(1, 0, -1, 0, 0, 0));
+        no("25 slow 1000", s.street(1, 0, 1, 0, 1000, 0));
+        no("25 as below 0", s.street(1, 0, 1, -1, 0, 0));
+        no("25 closed below 0", s.street(1, 0, 1, 0, 0, -1));
         no("25 place below 0", s.street(1, -1, 0, 0, 0, 0));
         no("25 as 1000", s.street(1, 0, 1, 1000, 0, 0));
         no("25 slow below 0", s.street(1, 0, 1, 0, -1, 0));
@@ -774,6 +883,8 @@ public final class PromiseTest {
         WhoseStreet s = new WhoseStreet();
         due("26 the same", s.trip(3, 3), NONE);
         due("26 place 8", s.trip(0, 8), NONE);
+        due("26 place 8 first", s.trip(8, 0), NONE);
+        due("26 place below 0 behind", s.trip(0, -1), NONE);
         due("26 place below 0", s.trip(-1, 0), NONE);
         for (int i = 0; i < 8; i++) {
             due("26 told", s.trip(i, (i + 1) % 8), i);
@@ -816,6 +927,33 @@ public final class PromiseTest {
         s.street(3, 2, 1, 10, 5, 0);
         due("27 of equal ones the least number, street 0", s.plan(0, 0), 2);
         due("27 of equal ones the least number, street 3", s.plan(0, 3), 0);
+        planOfAll();
+    }
+
+    /** Eight streets in a ring and eight trips along them. */
+    private static void planOfAll() {
+        WhoseStreet s = new WhoseStreet();
+        for (int i = 0; i < 8; i++) {
+            s.street(i, i, (i + 1) % 8, 10, 2, 1);
+            s.trip((i + 1) % 8, i);
+        }
+        // One closed street is led round by the others; a second one is not.
+        due("27 all LATE", s.plan(8, 9), 8);
+        due("27 all LATE, the sum", s.plan(8, 8), 7 * 2 + 1);
+        due("27 all LATE, closed", s.plan(8, 0), 2);
+        due("27 all LATE, slow", s.plan(8, 7), 1);
+        due("27 seven LATE", s.plan(7, 9), 7);
+        due("27 seven LATE, the sum", s.plan(7, 8), 10 + 6 * 2 + 1);
+        due("27 none LATE", s.plan(0, 9), 0);
+        due("27 none LATE, the sum", s.plan(0, 8), 7 * 10 + 1);
+        for (int i = 0; i < 8; i++) {
+            s.street(i, i, (i + 1) % 8, 1, 1, 1);
+        }
+        due("27 all as they are", s.plan(8, 9), 0);
+        due("27 all as they are, the sum", s.plan(8, 8), 8);
+        for (int i = 0; i < 8; i++) {
+            due("27 as it is", s.plan(8, i), 0);
+        }
     }
 
     private static void count() {
