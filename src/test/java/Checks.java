@@ -22,6 +22,14 @@ final class Checks {
         due(what, got ? 1 : 0, want ? 1 : 0);
     }
 
+    int looked() {
+        return looked;
+    }
+
+    int wrong() {
+        return wrong;
+    }
+
     void end() {
         System.out.println(looked + " answers looked at, " + wrong + " not as due");
         if (wrong != 0 || looked == 0) {
