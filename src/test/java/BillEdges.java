@@ -36,6 +36,15 @@ final class BillEdges extends Edges {
         due("8 are there", s.count(8), 8);
         yes("the eighth leans", s.leans(7, 8, -99));
         no("a ninth does not", s.leans(8, 8, -99));
+        WhoseStreet eight = new WhoseStreet();
+        for (int i = 0; i < 8; i++) {
+            eight.voters(i == 7 ? 9999 : 1);
+        }
+        for (int clause = 0; clause <= 8; clause++) {
+            due("the eighth's leaning is 0 at first", eight.passes(1 << clause), 1);
+            eight.leans(7, clause, -1);
+            due("the eighth's leaning counts", eight.passes(1 << clause), 0);
+        }
     }
 
     @Sentence("A CLASS votes yes if its leanings for the CLAUSES that are left come to 0 or more.")

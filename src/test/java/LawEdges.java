@@ -248,6 +248,13 @@ final class LawEdges extends Edges {
         }
         right(lets(8) + "fault both when p+q+r+s+t+u+v+w;");
         fault(lets(8) + "let x", 5, 68);
+        right(lines(12, "limit 1 when 1;") + lets(8));
+        fault(lines(12, "limit 1 when 1;") + lets(7) + "let x = w ;", 2, 180 + 56 + 8);
+        WhoseStreet s = withMeeting();
+        due("8 NAMES with other lines between them", Checks.law(s, "let a=1;fault both when 0;let b=a+1;limit 1 when 0;let c=b+1;"
+            + "limit 1 when 0;let d=c+1;let e=d+1;limit 1 when 0;let f=e+1;let g=f+1;fault both when 0;let h=g+1;"
+            + "fault walker when h=8 and a=1 and e=5;", 0), 0);
+        due("each is what it was told", s.whose(0, 0, 0), 2);
         fault(lets(7) + "let p", 3, 60);
         right(lets(7) + "let x=p;");
         fault("fault both when a ; let a = 1 ;", 2, 16);
@@ -343,6 +350,8 @@ final class LawEdges extends Edges {
         fault("let a = 1 ; fault both when 1 ; let b = 1 ; let a", 3, 48);
         fault("let abcdefgh = 1 ; let abcdefgh", 3, 23);
         right("let abcdefgh = 1 ; let abcdefgi = 1 ; let abcdefg = 1 ; let bcdefgh = 1 ;");
+        right("let a=1;let aa=1;let b=1;let bb=1;let ab=1;let ba=1;let z=1;let zz=1;");
+        right("let bbbbbbbb=1;let bbbbbbb=1;let zzzzzzzz=1;let zzzzzzz=1;let aaaaaaaa=1;let aaaaaaa=1;let az=1;let za=1;");
     }
 
     @Sentence("4 a NUMBER that is not as told;")

@@ -226,6 +226,16 @@ final class StreetEdges extends Edges {
             due("LATE ones at most " + late + ", the sum", s.plan(late, 8), sum);
             due("LATE ones", s.plan(late, 9), late == 1 ? 0 : late);
         }
+        for (int i = 0; i < 8; i++) {
+            s.street(i, i, (i + 1) % 8, 1, 2, 2);
+        }
+        done("all 8 as they are", s, 8, 0, 0, 0, 0, 0, 0, 0, 0);
+        due("their sum", s.plan(8, 8), 8);
+        for (int i = 0; i < 8; i++) {
+            s.street(i, i, (i + 1) % 8, 2, 1, 2);
+        }
+        done("all 8 slow", s, 8, 1, 1, 1, 1, 1, 1, 1, 1);
+        due("all LATE", s.plan(8, 9), 8);
     }
 
     @Sentence("A COUNT of a street in a YEAR (hurt NONE: missing, walked of no matter then): true; false: others.")
