@@ -24,6 +24,7 @@ public final class CompareTest {
             new CompareTest(seed).rides();
             new CompareTest(seed).laws();
             new CompareTest(seed).texts();
+            new CompareTest(seed).longTexts();
             new CompareTest(seed).customs();
             new CompareTest(seed).lights();
             new CompareTest(seed).bills();
@@ -186,6 +187,22 @@ public final class CompareTest {
             if (text.length() <= 1000) {
                 WhoseStreet fresh = new WhoseStreet();
                 due("text [" + text + "]", Checks.law(fresh, text, 0), new PlainStreet().law(text, 0));
+            }
+        }
+    }
+
+    /** Whole laws, right ones and nearly right ones, and what the right ones say. */
+    private void longTexts() {
+        LawTexts texts = new LawTexts(random);
+        tellMeeting();
+        tellStand();
+        for (int i = 0; i < 20; i++) {
+            String text = texts.next();
+            int year = from(0, 30);
+            due("text [" + text + "]", Checks.law(s, text, year), p.law(text, year));
+            for (int what = 0; what <= 3; what++) {
+                int asked = from(year, 30);
+                due("whose what " + what, s.whose(0, asked, what), p.whose(0, asked, what));
             }
         }
     }
